@@ -79,7 +79,7 @@ public final class DepotCharge {
         for (int slot = 0; slot < filled.length; slot++) {
             filled[slot] = false;
         }
-        return text.obeyedBy(now);
+        return text.doAllIn(now);
     }
 
     // ---- what there is
@@ -433,10 +433,10 @@ public final class DepotCharge {
         int three = four % 1000;
         switch (group / 10000) {
             // A digit other than the written 0 makes the hours and the power too large.
-            case 1: return trial.mayPassHours(four);
-            case 2: return trial.mayGiveBattery(digit, three);
-            case 3: return trial.mayChange(digit, three);
-            case 4: return trial.mayPutCharger(four);
+            case 1: return trial.tryPassHours(four);
+            case 2: return trial.tryGiveBattery(digit, three);
+            case 3: return trial.tryChange(digit, three);
+            case 4: return trial.tryPutCharger(four);
             case 5: return trial.hasCharge(digit, three);
             case 6: return three == 0 && trial.isOut(digit);
             case 7: return four < 100 && trial.missed <= four;
@@ -450,16 +450,16 @@ public final class DepotCharge {
         int b = r / 8 % 8;
         switch (r % 8) {
             case 0:
-                trial.mayGiveRoute(b, 1 + r / 64 % 99, r / 8192 % 24, r / 262144 % 24);
+                trial.tryGiveRoute(b, 1 + r / 64 % 99, r / 8192 % 24, r / 262144 % 24);
                 break;
             case 1:
-                trial.mayGiveBattery(b, 10 + r / 64 % 200);
+                trial.tryGiveBattery(b, 10 + r / 64 % 200);
                 break;
             case 2:
-                trial.mayChange(LIMIT, r / 64 % 251);
+                trial.tryChange(LIMIT, r / 64 % 251);
                 break;
             default:
-                trial.mayPassHours(1 + r / 8 % 9);
+                trial.tryPassHours(1 + r / 8 % 9);
                 break;
         }
     }
@@ -718,15 +718,15 @@ public final class DepotCharge {
 
         // -- changes that are left out if they are not allowed, with the answer whether they were made
 
-        boolean mayPutBus(int size, int charge, int need, int leaves, int back) {
+        boolean tryPutBus(int size, int charge, int need, int leaves, int back) {
             return isBus(size, charge, need, leaves, back) && putBus(size, charge, need, leaves, back) != NONE;
         }
 
-        boolean mayPutCharger(int power) {
+        boolean tryPutCharger(int power) {
             return isWithin(power, 1, MOST_POWER) && putCharger(power) != NONE;
         }
 
-        boolean mayGiveRoute(int b, int need, int leaves, int back) {
+        boolean tryGiveRoute(int b, int need, int leaves, int back) {
             Bus bus = busAt(b);
             if (bus == null || bus.out || !isRoute(need, leaves, back)) {
                 return false;
@@ -735,7 +735,7 @@ public final class DepotCharge {
             return true;
         }
 
-        boolean mayGiveBattery(int b, int size) {
+        boolean tryGiveBattery(int b, int size) {
             Bus bus = busAt(b);
             if (bus == null || bus.out || !isWithin(size, LEAST_SIZE, MOST_SIZE)) {
                 return false;
@@ -744,7 +744,7 @@ public final class DepotCharge {
             return true;
         }
 
-        boolean mayChange(int what, int value) {
+        boolean tryChange(int what, int value) {
             if (!isSetting(what, value)) {
                 return false;
             }
@@ -752,7 +752,7 @@ public final class DepotCharge {
             return true;
         }
 
-        boolean mayPassHours(int n) {
+        boolean tryPassHours(int n) {
             if (!isWithin(n, 1, LONGEST_RUN)) {
                 return false;
             }
@@ -978,12 +978,12 @@ public final class DepotCharge {
         }
 
         /** Lets a depot do the commands of a text without an error; tells how many it leaves out. */
-        int obeyedBy(Depot depot) {
+        int doAllIn(Depot depot) {
             int leftOut = 0;
             boolean more = true;
             at = 0;
             for (int i = 0; more && i <= length; i++) {
-                if (!readCommand() || !isObeyedBy(depot)) {
+                if (!readCommand() || !doIn(depot)) {
                     leftOut++;
                 }
                 more = readSign(';');
@@ -991,14 +991,15 @@ public final class DepotCharge {
             return leftOut;
         }
 
-        private boolean isObeyedBy(Depot depot) {
+        /** Does the command that was read last; false if it is left out. */
+        private boolean doIn(Depot depot) {
             switch (firstLetter) {
-                case 'b': return depot.mayPutBus(numbers[0], numbers[1], numbers[2], numbers[3], numbers[4]);
-                case 'p': return depot.mayPutCharger(numbers[0]);
+                case 'b': return depot.tryPutBus(numbers[0], numbers[1], numbers[2], numbers[3], numbers[4]);
+                case 'p': return depot.tryPutCharger(numbers[0]);
                 case 'r':
                     depot.passHours(numbers[0]);
                     return true;
-                case 's': return depot.mayChange(numbers[0], numbers[1]);
+                case 's': return depot.tryChange(numbers[0], numbers[1]);
                 default: return false;
             }
         }

@@ -34,6 +34,7 @@ final class PromiseTests {
         battery();
         run();
         lineForTheChargers();
+        fullDepot();
         night();
         wear();
         set();
@@ -44,6 +45,7 @@ final class PromiseTests {
         firstMissed();
         leastLimit();
         bestNight();
+        bestNightIsTheLowest();
         ifPlugged();
         scriptsDo();
         scriptsAsk();
@@ -335,6 +337,16 @@ final class PromiseTests {
         same("5: day price", 5, x.setting(1));
         x.save(1);
         same("5: a slot can be filled again", 9, x.restore(1));
+        DepotCharge out = typed("bus,50,50,50,0,9;bus,50,0,50,0,9;plug,1");
+        out.load();
+        out.run(1);
+        out.load();
+        same("5: nothing was missed", 0, out.about(5));
+        same("5: nothing was gone", 0, out.about(6));
+        same("5: nothing was paid", 0, out.about(3));
+        same("5: nothing was charged", 0, out.about(4));
+        same("5: the bus is in the depot", 0, out.bus(0, 6));
+        same("5: the bus has no wear", 0, out.bus(0, 5));
     }
 
     private void loadRefuses() {
@@ -698,6 +710,21 @@ final class PromiseTests {
         fails("15: above", ARGUMENT, () -> x.run(49));
         same("15: the refused are none", 78, x.about(2));
         missedRoutes();
+        outUntilItComesBack();
+    }
+
+    private void outUntilItComesBack() {
+        // By night it is charged up to 100. Across midnight: it leaves in the hour 22, and comes back in the hour 27, at 3 of the next day.
+        DepotCharge x = loaded("set,5,12;bus,100,90,30,22,3;plug,10;run,22");
+        same("15: not yet out", 0, x.bus(0, 6));
+        for (int hour = 23; hour <= 27; hour++) {
+            x.run(1);
+            same("15: out when it is " + hour, 1, x.bus(0, 6));
+            same("15: its charge when it is " + hour, 70, x.bus(0, 1));
+        }
+        x.run(1);
+        same("15: back", 0, x.bus(0, 6));
+        same("15: gone once", 1, x.about(6));
     }
 
     private void missedRoutes() {
@@ -764,6 +791,52 @@ final class PromiseTests {
         same("15: then the next", 0, x.bus(1, 8));
         same("15: not more than is lacking up to the size", 10, x.bus(0, 7));
         same("15: up to the size, not to the need", 12, x.bus(2, 7));
+        DepotCharge y = new DepotCharge();
+        y.addBus(400, 0, 400, 6, 7);
+        y.addBus(400, 0, 1, 5, 7);
+        y.addCharger(50);
+        same("15: the hours count more than any lack", 0, y.bus(1, 8));
+        same("15: who lacks most comes later", -1, y.bus(0, 8));
+        y.route(0, 400, 5, 7);
+        same("15: of the same hours the lack counts", 0, y.bus(0, 8));
+        for (int lack = 1; lack <= 400; lack++) {
+            y.route(1, lack, 1, 7);
+            same("15: in want for the next hour, lacking " + lack, 0, y.bus(1, 8));
+        }
+        DepotCharge last = new DepotCharge();
+        last.addBus(400, 399, 1, 1, 7);
+        last.addBus(400, 399, 400, 0, 7);
+        last.addCharger(50);
+        same("15: in want, though not before tomorrow, goes ahead of the others", 0, last.bus(1, 8));
+    }
+
+    /** As many buses and chargers as there can be. */
+    private void fullDepot() {
+        DepotCharge x = new DepotCharge();
+        x.set(5, 12);
+        x.set(0, 250);
+        for (int b = 0; b < 8; b++) {
+            x.addBus(100, 10 * b, 100, 23 - b, 0);
+        }
+        for (int c = 0; c < 5; c++) {
+            x.addCharger(10 + c);
+        }
+        same("15: all low", 8, x.about(8));
+        same("15: together", 280, x.about(10));
+        for (int b = 0; b < 8; b++) {
+            // The last bus leaves first, and is at the strongest charger, the last one.
+            same("15: charger of " + b, b < 3 ? -1 : b - 3, x.bus(b, 8));
+            same("15: units of " + b, b < 3 ? 0 : 7 + b, x.bus(b, 7));
+        }
+        for (int c = 0; c < 5; c++) {
+            same("15: bus at " + c, c + 3, x.charger(c, 2));
+        }
+        same("15: all chargers", 60, x.run(1));
+        same("15: together then", 340, x.about(10));
+        String before = seen(x);
+        x.run(48);
+        x.undo();
+        checks.same("15: a full depot undone", before, seen(x));
     }
 
     private void night() {
@@ -824,6 +897,9 @@ final class PromiseTests {
         x.run(1);
         same("15: less by the setting once", 8, x.bus(0, 5));
         same("15: smaller once", 99, x.bus(0, 0));
+        same("15: the charge of a smaller battery stays", 20, x.bus(0, 1));
+        same("15: wear just below 80 of 100", 2, wearOf(400, 319));
+        same("15: wear just below 50 of 100", 1, wearOf(400, 199));
         DepotCharge small = loaded("set,4,1;bus,10,10,3,0,1;run,1");
         same("15: not less than 10", 10, small.bus(0, 0));
         same("15: the wear is less all the same", 0, small.bus(0, 5));
@@ -910,6 +986,8 @@ final class PromiseTests {
         int before = x.about(3);
         same("18: units as the run", units, x.run(48));
         same("18: paid as the run", paid, x.about(3) - before);
+        same("18: gone, without those before", 1, x.coming(24, 3));
+        same("18: missed, without those before", 1, x.coming(24, 2));
         fails("18: n below", ARGUMENT, () -> x.coming(0, 0));
         fails("18: n above", ARGUMENT, () -> x.coming(73, 0));
         fails("18: what below", ARGUMENT, () -> x.coming(1, -1));
@@ -951,6 +1029,7 @@ final class PromiseTests {
         same("20: thirty an hour", 30, x.leastLimit(5));
         x.route(1, 61, 4, 9);
         same("20: one more unit", 40, x.leastLimit(5));
+        same("20: one hour", 0, x.leastLimit(1));
         x.set(0, 0);
         same("20: the present limit does not count", 40, x.leastLimit(5));
         same("20: and stays", 0, x.setting(0));
@@ -1001,6 +1080,20 @@ final class PromiseTests {
         same("21: at 4 to 6, none by night", 7, free.bestNight(3));
     }
 
+    private void bestNightIsTheLowest() {
+        // All of the night counts: the hours 0 to 7 are the cheapest from 0 on, the hours 1 to 8 from 1 on.
+        DepotCharge x = loaded("bus,100,0,80,23,22;plug,10");
+        same("21: from 0 on", 0, x.bestNight(8));
+        x.run(1);
+        x.battery(0, 100);
+        same("21: from 1 on", 1, x.bestNight(8));
+        same("21: the same, told once more", 1, x.bestNight(8));
+        x.run(22);
+        x.battery(0, 100);
+        x.route(0, 80, 22, 21);
+        same("21: from 23 on", 23, x.bestNight(8));
+    }
+
     /** A depot at an hour, with a bus that is in want for three hours. */
     private static DepotCharge wanting(int hour) {
         DepotCharge x = new DepotCharge();
@@ -1038,6 +1131,11 @@ final class PromiseTests {
         fails("22: five, and power wrong", ARGUMENT, () -> x.ifPlugged(51, 5));
         fails("22: five, and n wrong", ARGUMENT, () -> x.ifPlugged(15, 73));
         x.undo();
+        same("22: one hour", 0, x.ifPlugged(15, 1));
+        x.run(48);
+        int missed = x.about(5);
+        same("22: missed before", 4, missed);
+        same("22: without those before", 0, x.ifPlugged(15, 1));
         fails("22: power below", ARGUMENT, () -> x.ifPlugged(0, 5));
         fails("22: power above", ARGUMENT, () -> x.ifPlugged(51, 5));
         fails("22: n below", ARGUMENT, () -> x.ifPlugged(15, 0));
@@ -1099,6 +1197,10 @@ final class PromiseTests {
         four.addCharger(10);
         four.addCharger(10);
         same("23: room for two more", 2, four.runScript(3, 400014000140001L));
+        four.addCharger(10);
+        same("23: room for one, which comes once", -1, four.runScript(1, 40001));
+        four.addCharger(10);
+        same("23: no room", 0, four.runScript(1, 40001));
     }
 
     private void scriptsAsk() {
@@ -1117,6 +1219,8 @@ final class PromiseTests {
         script(2, 1000270000L, 1);
         script(2, 1000270001L, -1);
         script(2, 1000270101L, 1);
+        script(2, 1000270100L, 1);
+        script(2, 1000270099L, -1);
         script(2, 1000271001L, 1);
         // In hour 0 the bus 1 alone is in want; in hour 1 it misses its route, and the bus 0 leaves.
         script(1, 81000, -1);
@@ -1134,6 +1238,13 @@ final class PromiseTests {
         script(2, 1000290001L, -1);
         script(2, 1000290002L, 1);
         script(2, 1000290101L, 1);
+        DepotCharge old = loaded("bus,400,400,1,0,1;bus,400,400,1,0,1;bus,400,400,1,0,1;plug,50;set,0,250");
+        for (int day = 0; day < 50; day++) {
+            old.run(24);
+        }
+        same("23: 150 are gone", 150, old.about(6));
+        same("23: at least 99", -1, old.runScript(1, 90099));
+        same("23: no group for 100", 0, old.runScript(1, 90100));
         script(2, 1000291001L, 1);
         script(3, 100029000160000L, -1);
         script(3, 100016000060000L, 1);
@@ -1170,6 +1281,9 @@ final class PromiseTests {
                 simulateAsPlayed(seed, m);
             }
         }
+        for (int i = 0; i < 300; i++) {
+            simulateAsPlayed(1000003L * i * i * i, 30);
+        }
         String before = seen(x);
         x.simulate(7, 30);
         checks.same("24: nothing changes", before, seen(x));
@@ -1180,7 +1294,7 @@ final class PromiseTests {
 
     /** The turns as calls of a depot of its own, in which routes were missed and gone before. */
     private void simulateAsPlayed(long seed, int m) {
-        DepotCharge x = loaded("bus,100,60,20,1,5;bus,90,0,20,1,5;bus,80,80,70,3,1;plug,10;plug,20;run,9");
+        DepotCharge x = loaded("bus,100,60,20,1,5;bus,90,0,20,1,5;bus,80,80,70,3,1;bus,60,0,2,7,9;plug,10;run,9");
         int told = x.simulate(seed, m);
         int missed = x.about(5);
         int gone = x.about(6);
