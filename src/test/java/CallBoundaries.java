@@ -495,6 +495,24 @@ final class CallBoundaries extends Boundaries {
         x.addBus(50, 40, 30, 4, 6);
         due("in the depot, between its hours", 0, x.bus(0, 6));
         due("it is one more", 1, x.about(0));
+        DepotCharge y = new DepotCharge();
+        y.addBus(50, 50, 50, 0, 9);
+        y.run(1);
+        due("one that is out, and worn", 4, y.bus(0, 5) + y.bus(0, 6));
+        y.undo();
+        y.run(1);
+        y.undo();
+        y.undo();
+        y.addBus(60, 5, 6, 7, 8);
+        due("the one behind it with its number, in the depot", 0, y.bus(0, 6));
+        due("the one behind it with its number, without wear", 0, y.bus(0, 5));
+        DepotCharge z = Depots.busy();
+        z.restore(0);
+        z.restore(1);
+        z.load();
+        due("the first one behind a load", 0, z.addBus(60, 5, 6, 7, 8));
+        due("the first one behind a load, in the depot", 0, z.bus(0, 6));
+        due("the first one behind a load, without wear", 0, z.bus(0, 5));
     }
 
     private void addBusSize() {

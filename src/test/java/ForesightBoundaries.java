@@ -491,6 +491,9 @@ final class ForesightBoundaries extends Boundaries {
         script(NONE, 10002, 60000);
         script(1, 10002, 61000);
         script(1, 10006, 60000);
+        DepotCharge last = Depots.withEightBuses();
+        due("the last bus, in the depot", 0, last.runScript(1, 67000));
+        due("the last bus, out", NONE, last.runScript(2, number(10005, 67000)));
     }
 
     /** A depot in which so many routes were missed, or gone, by three buses. */
@@ -542,6 +545,7 @@ final class ForesightBoundaries extends Boundaries {
         due("99 of 99", NONE, after(33, 400).runScript(1, 90099));
         due("96 of 96", NONE, after(32, 400).runScript(1, 90096));
         due("97 of 96", 0, after(32, 400).runScript(1, 90097));
+        due("99 of 102", NONE, after(34, 400).runScript(1, 90099));
     }
 
     private void scriptFailsWhereMethodsThrow() {
@@ -586,6 +590,9 @@ final class ForesightBoundaries extends Boundaries {
         for (int group : others) {
             script(0, group);
         }
+        script(0, 70100);
+        due("100 of 102, which can't be written", 0, after(34, 400).runScript(1, 90100));
+        due("1000 of 1002, which can't be written", 0, after(334, 400).runScript(1, 91000));
         int[] written = {10001, 40001, 70001, 90000};
         for (int group : written) {
             script(NONE, group);
@@ -780,10 +787,24 @@ final class ForesightBoundaries extends Boundaries {
         String charged = "bus,400,99,50,12,13;plug,50";
         simulate("back at 23", 1001, charged, 4, seed(routeTurn(0, 99, 0, 23), 9, 9, 9));
         simulate("back at 22", 2, charged, 4, seed(routeTurn(0, 99, 0, 22), 9, 9, 9));
+        routesAtTheEndOfAnHour();
         // Back in the hour 24, it is charged once before it leaves again in the hour 25, and 50 are enough for 50.
         simulate("back at 0", 2, "bus,400,50,50,12,13;run,1;plug,50", 4, seed(routeTurn(0, 50, 1, 0), 9, 9, 9));
         simulate("back at 0, with 51", 1001, "bus,400,51,50,12,13;run,1;plug,50", 4,
             seed(routeTurn(0, 51, 1, 0), 9, 9, 9));
+    }
+
+    /** The greatest r of an hour at which a bus comes back: 14 * 262144 - 8 is route(7, 23, 15, 13). */
+    private void routesAtTheEndOfAnHour() {
+        DepotCharge x = new DepotCharge();
+        x.run(15);
+        for (int b = 0; b < 7; b++) {
+            x.addBus(10, 10, 400, 14, 13);
+        }
+        x.addBus(400, 23, 1, 0, 1);
+        x.addCharger(12);
+        // Back in the hour 37, it gets 12 twice before it leaves in the hour 39; the seven others miss theirs once.
+        due("the last r with which a bus comes back at 13", 7002, x.simulate(seed(14 * 262144 - 8, 9, 9, 9), 4));
     }
 
     private void simulateBattery() {

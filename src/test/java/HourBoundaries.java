@@ -102,6 +102,14 @@ final class HourBoundaries extends Boundaries {
         due(need + " of " + size, due, Depots.left(99, size, need).bus(0, 5));
     }
 
+    /** The wear of a bus that is not full when it leaves: its size counts, not its charge. */
+    private void wearsWith(int charge, int need, int due) {
+        DepotCharge x = new DepotCharge();
+        x.addBus(100, charge, need, 0, 1);
+        x.run(1);
+        due(need + " of 100, with a charge of " + charge, due, x.bus(0, 5));
+    }
+
     private void wearsByThree() {
         says(TERMS, "the wear grows by 3 if 100 times its need is at least 80 times its size,");
         wears(100, 80, 3);
@@ -116,6 +124,8 @@ final class HourBoundaries extends Boundaries {
         wears(400, 319, 2);
         wears(400, 400, 3);
         wears(10, 10, 3);
+        wearsWith(80, 80, 3);
+        wearsWith(79, 79, 2);
     }
 
     private void wearsByTwoOrOne() {
@@ -131,6 +141,8 @@ final class HourBoundaries extends Boundaries {
         wears(400, 200, 2);
         wears(400, 199, 1);
         wears(400, 1, 1);
+        wearsWith(50, 50, 2);
+        wearsWith(49, 49, 1);
     }
 
     private void wearsOut() {
@@ -212,6 +224,17 @@ final class HourBoundaries extends Boundaries {
         wants("one below both", 100, 99, 100, 1);
         wants("at both", 100, 100, 100, 0);
         wants("empty, with the least need", 10, 0, 1, 10);
+        // Whatever it lacks, and however soon it leaves, a bus that is in want goes ahead of one that is not.
+        for (int lack = 1; lack <= 400; lack++) {
+            aheadOfOthers(lack, 1);
+            aheadOfOthers(lack, 0);
+        }
+    }
+
+    private void aheadOfOthers(int lack, int leaves) {
+        DepotCharge x = Depots.loaded("bus,400,399,1,12,13;plug,50");
+        x.addBus(400, 0, lack, leaves, 13);
+        due("lacking " + lack + ", leaves at " + leaves, 1, x.charger(0, 2));
     }
 
     private void wantsByNight(String name, int firstHour, int charge, int units) {
@@ -236,8 +259,8 @@ final class HourBoundaries extends Boundaries {
     /** The bus that is at the only charger, of two empty ones with these needs and hours of leaving, by day. */
     private void first(int due, int need0, int leaves0, int need1, int leaves1) {
         DepotCharge x = byDay(50);
-        x.addBus(400, 0, need0, leaves0, 12);
-        x.addBus(400, 0, need1, leaves1, 12);
+        x.addBus(400, 0, need0, leaves0, (leaves0 + 12) % 24);
+        x.addBus(400, 0, need1, leaves1, (leaves1 + 12) % 24);
         String name = "need " + need0 + " at " + leaves0 + ", need " + need1 + " at " + leaves1;
         due(name, due, x.charger(0, 2));
         due(name + ", the other one", NONE, x.bus(1 - due, 8));
@@ -252,6 +275,11 @@ final class HourBoundaries extends Boundaries {
         first(1, 400, 0, 1, 23);
         first(0, 1, 23, 400, 0);
         first(1, 400, 0, 1, 1);
+        // The one that leaves an hour sooner and lacks 1 goes ahead of the one that lacks 400, in each hour.
+        for (int hour = 1; hour < 24; hour++) {
+            first(1, 400, (hour + 1) % 24, 1, hour);
+            first(0, 1, hour, 400, (hour + 1) % 24);
+        }
         DepotCharge x = byDay(50);
         x.addBus(400, 0, 1, 1, 12);
         x.addBus(400, 0, 1, 23, 12);

@@ -751,9 +751,11 @@ final class PromiseTests {
         same("15: who lacks most comes later", -1, y.bus(0, 8));
         y.route(0, 400, 5, 7);
         same("15: of the same hours the lack counts", 0, y.bus(0, 8));
-        for (int lack = 1; lack <= 400; lack += 7) {
-            y.route(1, lack, 1, 7);
-            same("15: in want for the next hour, lacking " + lack, 0, y.bus(1, 8));
+        for (int lack = 1; lack <= 400; lack++) {
+            DepotCharge z = new DepotCharge();
+            z.addBus(400, 0, lack, 1, 7);
+            z.addCharger(50);
+            same("15: in want for the next hour, lacking " + lack, 0, z.bus(0, 8));
         }
         DepotCharge last = new DepotCharge();
         last.addBus(400, 399, 1, 1, 7);

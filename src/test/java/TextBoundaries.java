@@ -91,6 +91,12 @@ final class TextBoundaries extends Boundaries {
         error("run", 3);
         error("run,", 4);
         error("run1", 3);
+        error("ru,1", 2);
+        error("r,1", 1);
+        error("plu,1", 3);
+        error("se,1,1", 2);
+        error("bu,10,0,1,0,1", 2);
+        error("b,10,0,1,0,1", 1);
         error("run,,1", 4);
         error(",run", 0);
         error("run;", 3);
@@ -478,6 +484,14 @@ final class TextBoundaries extends Boundaries {
         x.load();
         due("the hour, loaded twice", 4, x.about(2));
         due("one charger, loaded twice", 1, x.about(1));
+        DepotCharge used = Depots.typed("bus,50,49,50,0,12;bus,50,50,50,0,12;plug,1");
+        used.load();
+        String fresh = Depots.stateOf(used);
+        used.run(1);
+        due("missed before", 1, used.about(5));
+        due("gone before", 1, used.about(6));
+        used.load();
+        due("none missed or gone, nothing paid or charged, no bus worn or out", fresh, Depots.stateOf(used));
     }
 
     private void loadForgets() {
