@@ -3,15 +3,17 @@ import java.nio.file.Path;
 import java.util.List;
 
 /**
- * Runs every test of the project; exit code 1 if one fails. The arguments are the path of DepotCharge.java and that of
- * DOC.md.
+ * Runs every test of the project; exit code 1 if one fails. The arguments are the paths of DepotCharge.java, DOC.md and
+ * README.md; without them they are looked for from the top folder of the checkout.
  */
 public final class AllTests {
     public static void main(String[] args) {
         Checks checks = new Checks();
         new PromiseTests(checks).runAll();
-        boundaries(checks, args.length > 1 ? args[1] : "../shared/DOC.md");
+        String document = args.length > 1 ? args[1] : "../shared/DOC.md";
+        boundaries(checks, document);
         new FaceTests(checks).runAll(args.length > 0 ? args[0] : "src/main/java/DepotCharge.java");
+        new ReadmeTests(checks).runAll(Path.of(args.length > 2 ? args[2] : "README.md"), Path.of(document));
         new ModelTests(checks).runAll();
         System.out.println(checks.summary());
         if (checks.countFailed() > 0) {
