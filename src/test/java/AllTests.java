@@ -12,7 +12,7 @@ public final class AllTests {
         new PromiseTests(checks).runAll();
         String document = args.length > 1 ? args[1] : "../shared/DOC.md";
         boundaries(checks, document);
-        new FaceTests(checks).runAll(args.length > 0 ? args[0] : "src/main/java/DepotCharge.java");
+        new FaceTests(checks).runAll(args.length > 0 ? args[0] : "src/main/java/DepotCharge.java", document);
         new ReadmeTests(checks).runAll(Path.of(args.length > 2 ? args[2] : "README.md"), Path.of(document));
         new ModelTests(checks).runAll();
         System.out.println(checks.summary());

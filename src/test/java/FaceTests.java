@@ -26,8 +26,9 @@ final class FaceTests {
         this.checks = checks;
     }
 
-    void runAll(String source) {
+    void runAll(String source, String document) {
         face();
+        faceIsAsWritten(source, document);
         nothingElseIsSeen();
         noNameTwice();
         room();
@@ -59,6 +60,24 @@ final class FaceTests {
         checks.same("the constructors", "[public DepotCharge()]", Arrays.toString(constructors));
         checks.same("the public fields", "[public static final int DepotCharge.NONE]",
             Arrays.toString(DepotCharge.class.getFields()));
+    }
+
+    /** Each line of the document's public face stands in the class, with its exceptions. */
+    private void faceIsAsWritten(String source, String document) {
+        try {
+            String code = Files.readString(Path.of(source)).replaceAll("\\s+", " ");
+            int lines = 0;
+            for (String line : Files.readAllLines(Path.of(document))) {
+                if (line.matches("( {4})?public .*[;{]")) {
+                    lines++;
+                    String due = line.trim().replaceAll(";$", line.contains("=") ? ";" : " {");
+                    checks.same("the class says: " + due, 1, code.contains(due) ? 1 : 0);
+                }
+            }
+            checks.same("the lines of the face", FACE.length + 3, lines);
+        } catch (IOException e) {
+            checks.same("reading the face", "a text", e.toString());
+        }
     }
 
     private void nothingElseIsSeen() {
